@@ -1,3 +1,5 @@
+import java.util.ArrayList;
+import java.util.List;
 import java.util.NoSuchElementException;
 
 /** The promises 1 to 52, each with answers that were worked out by hand from the document. */
@@ -70,6 +72,7 @@ public final class PromisesTest {
         bestLateness();
         planned();
         sixJobs();
+        everyOrderOfSixJobs();
     }
 
     private void accounts() {
@@ -92,6 +95,7 @@ public final class PromisesTest {
         failedCommand();
         programIsOneChange();
         errorPositions();
+        errorsBehindOldText();
         refusedCommands();
     }
 
@@ -208,7 +212,10 @@ public final class PromisesTest {
         expect.fails("a wrong 13th job", ARGUMENT, () -> service.addJob(1, 1, 'b', 2, 3, 0));
         service.cancelJob(11);
         expect.same("numbers are not used again", 12, service.addJob(1, 1, 'b', 2, 3, 4));
-        expect.fails("barrowOf a new job", ELEMENT, () -> service.barrowOf(12));
+        service.assign(3, 1);
+        service.cancelJob(3);
+        service.addJob(1, 1, 'b', 2, 3, 4);
+        expect.fails("a new job is assigned to none", ELEMENT, () -> service.barrowOf(13));
     }
 
     // ---- promise 3
@@ -788,6 +795,40 @@ public final class PromisesTest {
         expect.fails("planned(2, 6)", ELEMENT, () -> service.planned(2, 6));
     }
 
+    /** Each order of six jobs is once the only one in which all are in time. */
+    private void everyOrderOfSixJobs() {
+        expect.part("32 to 34, every order of six jobs");
+        int[] order = new int[6];
+        for (int code = 0; code < 720; code++) {
+            int rest = code;
+            List<Integer> left = new ArrayList<>(List.of(0, 1, 2, 3, 4, 5));
+            for (int i = 0; i < 6; i++) {
+                order[i] = left.remove(rest % (6 - i));
+                rest /= 6 - i;
+            }
+            expectOnlyOrder(order);
+        }
+    }
+
+    /** The jobs stand along the street in this order, each due when the barrow comes straight to it. */
+    private void expectOnlyOrder(int[] order) {
+        RepairBarrows service = new RepairBarrows();
+        StringBuilder plan = new StringBuilder();
+        int[] places = new int[6];
+        for (int i = 0; i < 6; i++) {
+            places[order[i]] = i + 1;
+            plan.append(i > 0 ? ">" : "").append(order[i]).append(':').append(2 * (i + 1));
+        }
+        for (int job = 0; job < 6; job++) {
+            service.addJob(places[job], 0, 'a', 0, 1, 2 * places[job]);
+            service.assign(job, 1);
+        }
+        expect.same(plan + " bestLateness", 0, service.bestLateness(1));
+        expect.same(plan + " bestLatenessByOrders", 0, service.bestLatenessByOrders(1));
+        expect.same(plan + " planned", order[5], service.planned(1, 5));
+        expect.same("plan", plan.toString(), planLine(service, 1));
+    }
+
     // ---- promises 35 to 42
 
     /** Barrow 0 earned 20 with 0 hours late, barrow 1 earned 10 - 46 with 23 hours late. */
@@ -1074,6 +1115,27 @@ public final class PromisesTest {
         expectError("home 0;home 0;home 0;home 0;home 0;home 0;home 0;home 0;", 56);
         expectError("home 0;home 0;home 0;home 0;home 0;home 0;home 0;home 0;take", 60);
         expectError("home 0;home 0;home 0;home 0;home 0;home 0;home 0;home 0;tak0", 59);
+    }
+
+    /** What was typed before must not count, nor may a full buffer be read beyond its end. */
+    private void errorsBehindOldText() {
+        expect.part("47 run, 48 errorPosition, old text");
+        RepairBarrows service = new RepairBarrows();
+        for (String command : new String[] {"stock a1", "home 0", "rest 0 1", "job 1,2 a0 1@9"}) {
+            runText(service, command);
+            for (int length = 0; length < command.length(); length++) {
+                String beginning = command.substring(0, length);
+                expect.fails("'" + beginning + "'", ARGUMENT, () -> runText(service, beginning));
+                expect.same("'" + beginning + "' errorPosition()", length, service.errorPosition());
+                Expect.outcome(() -> runText(service, command));
+            }
+        }
+        String full = "rest 0 1;rest 0 1;rest 0 1;rest 0 1;rest 0 1;rest 0 1;";
+        for (String end : new String[] {"stock ", "load 0", "take 1", "rest 0", "fix 0 ", "job 1,"}) {
+            int due = end.equals("take 1") ? 54 : 60;
+            expect.fails("full, " + end, due == 60 ? ARGUMENT : UNSUPPORTED, () -> runText(service, full + end));
+            expect.same("full, " + end, due == 60, due == service.errorPosition());
+        }
     }
 
     private void expectError(String text, int position) {

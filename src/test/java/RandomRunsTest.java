@@ -49,16 +49,24 @@ public final class RandomRunsTest {
         nextJob = 0;
         int changes = 20 + random.nextInt(70);
         int programs = random.nextInt(8);
+        int repairs = random.nextInt(8);
         int backwards = random.nextInt(6);
         fillShed();
-        while (calls < CALLS - 3) {
+        if (random.nextInt(3) == 0) {
+            fillPlans();
+        }
+        while (calls < CALLS - 6) {
             expect.part("run " + run + ", call " + calls);
             int chance = random.nextInt(100);
             if (chance < changes) {
                 call(CHANGES[random.nextInt(CHANGES.length)]);
             } else if (chance < changes + programs) {
                 typeProgram();
-            } else if (chance < changes + programs + backwards) {
+            } else if (chance < changes + programs + repairs) {
+                aimAtRepair();
+            } else if (chance == 99 && calls < CALLS - 40) {
+                fillPlans();
+            } else if (chance < changes + programs + repairs + backwards) {
                 call(new String[] {"undo", "undo", "save", "restore"}[random.nextInt(4)]);
             } else {
                 call(methods.get(random.nextInt(methods.size())).getName());
@@ -74,6 +82,43 @@ public final class RandomRunsTest {
             make("borrow", random.nextInt(3), tool);
             make("load", random.nextInt(3), 'a' + random.nextInt(4), 1 + random.nextInt(4));
         }
+    }
+
+    /** Random changes alone seldom leave many jobs with one barrow. */
+    private void fillPlans() {
+        int barrow = random.nextInt(3);
+        for (int i = 0; i < 7; i++) {
+            call("addJob");
+            make("assign", nextJob - 1, barrow);
+        }
+        make("bestLateness", barrow);
+        make("bestLatenessByOrders", barrow);
+        make("writePlan", barrow);
+        make("planned", barrow, 5);
+        make("isConsistent");
+        for (int i = random.nextInt(8); i > 0; i--) {
+            make("charAt", random.nextInt(40));
+        }
+    }
+
+    /** Random changes alone seldom bring tool, part and barrow together. */
+    private void aimAtRepair() {
+        int job = job();
+        if (!model.call("isOpen", new int[] {job}).equals(true)) {
+            return;
+        }
+        int tool = (Integer) model.call("tool", new int[] {job});
+        int kind = (Character) model.call("kind", new int[] {job});
+        Object holder = Expect.outcome(() -> model.call("holder", new int[] {tool}));
+        int barrow = holder instanceof Integer ? (Integer) holder : random.nextInt(3);
+        if (random.nextBoolean()) {
+            make("goHome", barrow);
+            make("borrow", barrow, tool);
+            make("load", barrow, kind, 1);
+        }
+        make("canRepair", barrow, job);
+        make("finish", barrow, job);
+        make("repair", barrow, job);
     }
 
     private void call(String name) {
@@ -147,7 +192,7 @@ public final class RandomRunsTest {
 
     private void typeProgram() {
         StringBuilder text = new StringBuilder(command());
-        for (int more = random.nextInt(8); more > 0; more--) {
+        for (int more = random.nextInt(1 + random.nextInt(8)); more > 0; more--) {
             String command = command();
             if (text.length() + 1 + command.length() <= 60) {
                 text.append(';').append(command);

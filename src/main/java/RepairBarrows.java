@@ -973,15 +973,17 @@ public final class RepairBarrows {
             }
             for (int i = 0; i < count; i++) {
                 if (!isChosen[i]) {
-                    Job job = jobs[i];
-                    int finish = job.finishFrom(x, y, clock);
                     isChosen[i] = true;
-                    order[depth] = job.number;
-                    finishes[depth] = finish;
-                    choose(depth + 1, job.x, job.y, finish, lateness + job.latenessAt(finish));
+                    goOnWith(jobs[i], depth, jobs[i].finishFrom(x, y, clock), lateness);
                     isChosen[i] = false;
                 }
             }
+        }
+
+        private void goOnWith(Job job, int depth, int finish, int lateness) {
+            order[depth] = job.number;
+            finishes[depth] = finish;
+            choose(depth + 1, job.x, job.y, finish, lateness + job.latenessAt(finish));
         }
 
         // The plans come in ascending order: an equal one that comes later is not the best.

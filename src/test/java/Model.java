@@ -410,7 +410,7 @@ final class Model {
     private int run() {
         String text = buffer;
         buffer = "";
-        if (!PROGRAM.matcher(text).matches()) {
+        if (!isProgram(text)) {
             error = errorIn(text);
             throw new IllegalArgumentException();
         }
@@ -447,7 +447,11 @@ final class Model {
         throw new AssertionError(command);
     }
 
-    private static int errorIn(String text) {
+    static boolean isProgram(String text) {
+        return PROGRAM.matcher(text).matches();
+    }
+
+    static int errorIn(String text) {
         for (int i = 0; i < text.length(); i++) {
             if (!canGoOn(text.substring(0, i + 1))) {
                 return i;

@@ -109,50 +109,14 @@ public final class PromisesTest {
 
     // ---- what the tests share
 
-    /** A service whose shed has 50 parts of each kind. */
-    private static RepairBarrows stocked() {
-        RepairBarrows service = new RepairBarrows();
-        for (char kind = 'a'; kind <= 'd'; kind++) {
-            service.addStock(kind, 50);
-        }
-        return service;
-    }
-
     /** A service whose barrow 0 has one part a, one part b, and the tools 0 and 1. */
     private static RepairBarrows equipped() {
-        RepairBarrows service = stocked();
+        RepairBarrows service = Services.stocked();
         service.load(0, 'a', 1);
         service.load(0, 'b', 1);
         service.borrow(0, 0);
         service.borrow(0, 1);
         return service;
-    }
-
-    private static void typeText(RepairBarrows service, String text) {
-        for (int i = 0; i < text.length(); i++) {
-            service.type(text.charAt(i));
-        }
-    }
-
-    private static int runText(RepairBarrows service, String text) {
-        typeText(service, text);
-        return service.run();
-    }
-
-    private static String lineOf(RepairBarrows service, int length) {
-        StringBuilder line = new StringBuilder();
-        for (int i = 0; i < length; i++) {
-            line.append(service.charAt(i));
-        }
-        return line.toString();
-    }
-
-    private static String barrowLine(RepairBarrows service, int barrow) {
-        return lineOf(service, service.writeBarrow(barrow));
-    }
-
-    private static String planLine(RepairBarrows service, int barrow) {
-        return lineOf(service, service.writePlan(barrow));
     }
 
     private static void addJobs(RepairBarrows service, int count) {
@@ -171,7 +135,7 @@ public final class PromisesTest {
             expect.same("stock(" + kind + ")", 0, service.stock(kind));
         }
         for (int barrow = 0; barrow < 3; barrow++) {
-            expect.same("writeBarrow", barrow + "@0,0+0", barrowLine(service, barrow));
+            expect.same("writeBarrow", barrow + "@0,0+0", Text.barrow(service, barrow));
             expect.same("earnings", 0, service.earnings(barrow));
             expect.same("assigned", 0, service.assigned(barrow));
             expect.same("tools", 0, service.tools(barrow));
@@ -401,12 +365,12 @@ public final class PromisesTest {
         service.assign(0, 0);
         service.assign(1, 2);
         expect.same("due hour met: 7 + 2", 0, service.repair(0, 0));
-        expect.same("the part is used up, the tool stays", "0@3,4+9 t0 t1 b1", barrowLine(service, 0));
+        expect.same("the part is used up, the tool stays", "0@3,4+9 t0 t1 b1", Text.barrow(service, 0));
         expect.same("isOpen(0)", false, service.isOpen(0));
         expect.same("assigned(0)", 0, service.assigned(0));
         expect.same("earnings", 20, service.earnings(0));
         expect.same("3 hours late: 9 + 7 + 4 - 17, assigned to another", 6, service.repair(0, 1));
-        expect.same("barrow", "0@1,9+20 t0 t1", barrowLine(service, 0));
+        expect.same("barrow", "0@1,9+20 t0 t1", Text.barrow(service, 0));
         expect.same("earnings", 20 + 40 - 6, service.earnings(0));
         expect.same("assigned(2)", 0, service.assigned(2));
         expect.same("the stock is as it was", 49, service.stock('a'));
@@ -435,7 +399,7 @@ public final class PromisesTest {
         for (int barrow : NO_BARROWS) {
             expect.fails("barrow " + barrow, INDEX, () -> service.repair(barrow, 3));
         }
-        expect.same("nothing has changed", "0@0,0+0 t0 t1 a1 b1", barrowLine(service, 0));
+        expect.same("nothing has changed", "0@0,0+0 t0 t1 a1 b1", Text.barrow(service, 0));
         expect.same("jobs()", 3, service.jobs());
         expect.same("repaired()", 0, service.repaired());
     }
@@ -448,7 +412,7 @@ public final class PromisesTest {
         service.addJob(3, 4, 'a', 0, 2, 9);
         service.repair(0, 0);
         expect.same("9 + 7", 16, service.goHome(0));
-        expect.same("its parts and tools stay", "0@0,0+16 t0 t1 b1", barrowLine(service, 0));
+        expect.same("its parts and tools stay", "0@0,0+16 t0 t1 b1", Text.barrow(service, 0));
         expect.same("again", 16, service.goHome(0));
         expect.same("another barrow", 0, service.goHome(2));
         for (int barrow : NO_BARROWS) {
@@ -567,7 +531,7 @@ public final class PromisesTest {
 
     private void parts() {
         expect.part("21 parts");
-        RepairBarrows service = stocked();
+        RepairBarrows service = Services.stocked();
         service.load(1, 'b', 2);
         service.load(1, 'd', 3);
         expect.same("parts(1, a)", 0, service.parts(1, 'a'));
@@ -774,7 +738,7 @@ public final class PromisesTest {
         for (int job : new int[] {3, 0, 2}) {
             equal.assign(job, 0);
         }
-        expect.same("of equal ones the smallest numbers", "0:11>2:16>3:19", planLine(equal, 0));
+        expect.same("of equal ones the smallest numbers", "0:11>2:16>3:19", Text.plan(equal, 0));
         expect.same("planned(0, 1)", 2, equal.planned(0, 1));
     }
 
@@ -790,7 +754,7 @@ public final class PromisesTest {
         // Along the street each job is in time to the hour, and any other order is late.
         expect.same("bestLateness", 0, service.bestLateness(2));
         expect.same("bestLatenessByOrders", 0, service.bestLatenessByOrders(2));
-        expect.same("plan", "2:2>5:4>4:8>1:14>3:20>0:26", planLine(service, 2));
+        expect.same("plan", "2:2>5:4>4:8>1:14>3:20>0:26", Text.plan(service, 2));
         expect.same("planned(2, 5)", 0, service.planned(2, 5));
         expect.fails("planned(2, 6)", ELEMENT, () -> service.planned(2, 6));
     }
@@ -826,14 +790,14 @@ public final class PromisesTest {
         expect.same(plan + " bestLateness", 0, service.bestLateness(1));
         expect.same(plan + " bestLatenessByOrders", 0, service.bestLatenessByOrders(1));
         expect.same(plan + " planned", order[5], service.planned(1, 5));
-        expect.same("plan", plan.toString(), planLine(service, 1));
+        expect.same("plan", plan.toString(), Text.plan(service, 1));
     }
 
     // ---- promises 35 to 42
 
     /** Barrow 0 earned 20 with 0 hours late, barrow 1 earned 10 - 46 with 23 hours late. */
     private static RepairBarrows earned() {
-        RepairBarrows service = stocked();
+        RepairBarrows service = Services.stocked();
         service.load(0, 'a', 1);
         service.borrow(0, 0);
         service.load(1, 'd', 1);
@@ -930,7 +894,7 @@ public final class PromisesTest {
 
     private void writeBarrow() {
         expect.part("43 writeBarrow");
-        RepairBarrows service = stocked();
+        RepairBarrows service = Services.stocked();
         expect.same("the shortest line", 7, new RepairBarrows().writeBarrow(2));
         service.addJob(3, 0, 'b', 4, 1, 9);
         service.load(1, 'd', 1);
@@ -941,15 +905,15 @@ public final class PromisesTest {
         service.borrow(0, 2);
         service.rest(1, 8);
         service.repair(1, 0);
-        expect.same("the example", "1@3,0+12 t0 t4 a2 d1", barrowLine(service, 1));
+        expect.same("the example", "1@3,0+12 t0 t4 a2 d1", Text.barrow(service, 1));
         expect.same("its length", 20, service.writeBarrow(1));
-        expect.same("another one replaces it", "0@0,0+0 t2", barrowLine(service, 0));
+        expect.same("another one replaces it", "0@0,0+0 t2", Text.barrow(service, 0));
         service.load(2, 'c', 10);
-        expect.same("two digits", "2@0,0+0 c10", barrowLine(service, 2));
+        expect.same("two digits", "2@0,0+0 c10", Text.barrow(service, 2));
         for (int barrow : NO_BARROWS) {
             expect.fails("barrow " + barrow, INDEX, () -> service.writeBarrow(barrow));
         }
-        expect.same("a refused call leaves the line", "2@0,0+0 c10", lineOf(service, 11));
+        expect.same("a refused call leaves the line", "2@0,0+0 c10", Text.line(service, 11));
     }
 
     private void writePlan() {
@@ -963,14 +927,14 @@ public final class PromisesTest {
         service.addJob(5, 1, 'b', 1, 1, 7);
         service.assign(3, 0);
         service.assign(0, 0);
-        expect.same("3 is due first", "3:7>0:13", planLine(service, 0));
+        expect.same("3 is due first", "3:7>0:13", Text.plan(service, 0));
         service.writeBarrow(0);
         expect.same("its length replaces the old one", 8, service.writePlan(0));
         expect.fails("behind it", INDEX, () -> service.charAt(8));
         for (int barrow : NO_BARROWS) {
             expect.fails("barrow " + barrow, INDEX, () -> service.writePlan(barrow));
         }
-        expect.same("a refused call leaves the line", "3:7>0:13", lineOf(service, 8));
+        expect.same("a refused call leaves the line", "3:7>0:13", Text.line(service, 8));
         expect.same("an empty plan empties the line", 0, service.writePlan(1));
         expect.fails("charAt(0)", INDEX, () -> service.charAt(0));
     }
@@ -1005,7 +969,7 @@ public final class PromisesTest {
     private void everyCommand() {
         expect.part("47 run");
         RepairBarrows service = new RepairBarrows();
-        expect.same("jobs", 2, runText(service, "job 3,4 a0 2@9;job 20,020 d5 4@199"));
+        expect.same("jobs", 2, Text.run(service, "job 3,4 a0 2@9;job 20,020 d5 4@199"));
         expect.same("jobs()", 2, service.jobs());
         expect.same("kind(0)", 'a', service.kind(0));
         expect.same("tool(1)", 5, service.tool(1));
@@ -1013,19 +977,19 @@ public final class PromisesTest {
         expect.same("finish(0, 1)", 44, service.finish(0, 1));
         expect.same("finish(0, 0)", 9, service.finish(0, 0));
         expect.same("stock, load, borrow", 5,
-                runText(service, "stock a5;stock d99;load 1a2;load 1d003;borrow 10"));
+                Text.run(service, "stock a5;stock d99;load 1a2;load 1d003;borrow 10"));
         expect.same("stock(a)", 3, service.stock('a'));
-        expect.same("barrow", "1@0,0+0 t0 a2 d3", barrowLine(service, 1));
-        expect.same("give, take", 3, runText(service, "give 0>2;give 1>0;take 1"));
+        expect.same("barrow", "1@0,0+0 t0 a2 d3", Text.barrow(service, 1));
+        expect.same("give, take", 3, Text.run(service, "give 0>2;give 1>0;take 1"));
         expect.same("barrowOf(0)", 2, service.barrowOf(0));
         expect.fails("barrowOf(1)", ELEMENT, () -> service.barrowOf(1));
-        expect.same("fix, rest, cancel", 3, runText(service, "fix 1 0;rest 1 11;cancel 1"));
-        expect.same("barrow", "1@3,4+20 t0 a1 d3", barrowLine(service, 1));
+        expect.same("fix, rest, cancel", 3, Text.run(service, "fix 1 0;rest 1 11;cancel 1"));
+        expect.same("barrow", "1@3,4+20 t0 a1 d3", Text.barrow(service, 1));
         expect.same("jobs()", 0, service.jobs());
-        expect.same("home, return", 2, runText(service, "home 1;return 10"));
-        expect.same("barrow", "1@0,0+27 a1 d3", barrowLine(service, 1));
+        expect.same("home, return", 2, Text.run(service, "home 1;return 10"));
+        expect.same("barrow", "1@0,0+27 a1 d3", Text.barrow(service, 1));
         expect.same("eight commands", 8,
-                runText(service, "home 0;home 0;home 0;home 0;home 0;home 0;home 0;rest 0 12"));
+                Text.run(service, "home 0;home 0;home 0;home 0;home 0;home 0;home 0;rest 0 12"));
         expect.same("clock(0)", 12, service.clock(0));
         expect.fails("no error was recorded", ELEMENT, service::errorPosition);
         expect.fails("no failure was recorded", ELEMENT, service::failedCommand);
@@ -1035,18 +999,18 @@ public final class PromisesTest {
         expect.part("47 run, 49 failedCommand");
         RepairBarrows service = new RepairBarrows();
         service.rest(0, 1);
-        expect.fails("the second fails", UNSUPPORTED, () -> runText(service, "rest 0 5;borrow 06;rest 0 6"));
+        expect.fails("the second fails", UNSUPPORTED, () -> Text.run(service, "rest 0 5;borrow 06;rest 0 6"));
         expect.same("failedCommand()", 1, service.failedCommand());
         expect.same("none is executed", 1, service.clock(0));
         expect.same("the buffer is empty", 1, service.type('h'));
-        expect.same("and goes on", 1, runText(service, "ome 0"));
+        expect.same("and goes on", 1, Text.run(service, "ome 0"));
         expect.same("the record stays", 1, service.failedCommand());
-        expect.fails("the first fails", UNSUPPORTED, () -> runText(service, "take 0"));
+        expect.fails("the first fails", UNSUPPORTED, () -> Text.run(service, "take 0"));
         expect.same("failedCommand()", 0, service.failedCommand());
         expect.fails("the eighth fails", UNSUPPORTED,
-                () -> runText(service, "home 0;home 0;home 0;home 0;home 0;home 0;home 0;home 3"));
+                () -> Text.run(service, "home 0;home 0;home 0;home 0;home 0;home 0;home 0;home 3"));
         expect.same("failedCommand()", 7, service.failedCommand());
-        expect.fails("a syntax error", ARGUMENT, () -> runText(service, "homes"));
+        expect.fails("a syntax error", ARGUMENT, () -> Text.run(service, "homes"));
         expect.same("leaves failedCommand()", 7, service.failedCommand());
         expect.same("errorPosition()", 4, service.errorPosition());
     }
@@ -1055,8 +1019,8 @@ public final class PromisesTest {
         expect.part("47 run, 50 undo");
         RepairBarrows service = new RepairBarrows();
         service.addStock('a', 1);
-        runText(service, "stock a5;stock b6;rest 2 7");
-        expect.fails("a failed program is no change", UNSUPPORTED, () -> runText(service, "stock a5;stock a99"));
+        Text.run(service, "stock a5;stock b6;rest 2 7");
+        expect.fails("a failed program is no change", UNSUPPORTED, () -> Text.run(service, "stock a5;stock a99"));
         expect.same("stock(a)", 6, service.stock('a'));
         expect.same("undo()", 1, service.undo());
         expect.same("stock(a)", 1, service.stock('a'));
@@ -1120,20 +1084,21 @@ public final class PromisesTest {
     /** What was typed before must not count, nor may a full buffer be read beyond its end. */
     private void errorsBehindOldText() {
         expect.part("47 run, 48 errorPosition, old text");
-        RepairBarrows service = new RepairBarrows();
         for (String command : new String[] {"stock a1", "home 0", "rest 0 1", "job 1,2 a0 1@9"}) {
-            runText(service, command);
+            RepairBarrows service = new RepairBarrows();
+            Text.run(service, command);
             for (int length = 0; length < command.length(); length++) {
                 String beginning = command.substring(0, length);
-                expect.fails("'" + beginning + "'", ARGUMENT, () -> runText(service, beginning));
+                expect.fails("'" + beginning + "'", ARGUMENT, () -> Text.run(service, beginning));
                 expect.same("'" + beginning + "' errorPosition()", length, service.errorPosition());
-                Expect.outcome(() -> runText(service, command));
+                Expect.outcome(() -> Text.run(service, command));
             }
         }
         String full = "rest 0 1;rest 0 1;rest 0 1;rest 0 1;rest 0 1;rest 0 1;";
+        RepairBarrows service = new RepairBarrows();
         for (String end : new String[] {"stock ", "load 0", "take 1", "rest 0", "fix 0 ", "job 1,"}) {
             int due = end.equals("take 1") ? 54 : 60;
-            expect.fails("full, " + end, due == 60 ? ARGUMENT : UNSUPPORTED, () -> runText(service, full + end));
+            expect.fails("full, " + end, due == 60 ? ARGUMENT : UNSUPPORTED, () -> Text.run(service, full + end));
             expect.same("full, " + end, due == 60, due == service.errorPosition());
         }
     }
@@ -1141,11 +1106,11 @@ public final class PromisesTest {
     private void expectError(String text, int position) {
         RepairBarrows service = new RepairBarrows();
         service.rest(0, 1);
-        expect.fails("'" + text + "'", ARGUMENT, () -> runText(service, text));
+        expect.fails("'" + text + "'", ARGUMENT, () -> Text.run(service, text));
         expect.same("'" + text + "' errorPosition()", position, service.errorPosition());
         expect.fails("'" + text + "' failedCommand()", ELEMENT, service::failedCommand);
         expect.same("clock(0)", 1, service.clock(0));
-        expect.same("the record stays", 1, runText(service, "home 0"));
+        expect.same("the record stays", 1, Text.run(service, "home 0"));
         expect.same("errorPosition()", position, service.errorPosition());
         expect.same("no change but rest and home", 1, service.undo());
     }
@@ -1159,7 +1124,7 @@ public final class PromisesTest {
             "return 00", "return 90", "fix 0 0", "fix 9 0", "home 9", "rest 0 0", "rest 0 100", "rest 3 1"};
         for (String command : refused) {
             RepairBarrows service = new RepairBarrows();
-            expect.fails(command, UNSUPPORTED, () -> runText(service, "rest 0 9;" + command));
+            expect.fails(command, UNSUPPORTED, () -> Text.run(service, "rest 0 9;" + command));
             expect.same(command + ": failedCommand()", 1, service.failedCommand());
             expect.same(command + ": clock(0)", 0, service.clock(0));
             expect.fails(command + ": undo()", STATE, service::undo);
@@ -1170,7 +1135,7 @@ public final class PromisesTest {
 
     private void undoEachChange() {
         expect.part("50 undo");
-        RepairBarrows service = stocked();
+        RepairBarrows service = Services.stocked();
         service.save();
         service.restore();
         service.addJob(1, 1, 'a', 0, 1, 9);
@@ -1180,14 +1145,14 @@ public final class PromisesTest {
         service.repair(0, 0);
         service.goHome(0);
         service.giveBack(0, 0);
-        expect.same("before", "0@0,0+5 a2", barrowLine(service, 0));
+        expect.same("before", "0@0,0+5 a2", Text.barrow(service, 0));
         expect.same("giveBack", 6, service.undo());
         expect.same("the tool is back", 0, service.holder(0));
         expect.same("goHome", 5, service.undo());
-        expect.same("away", "0@1,1+3 t0 a2", barrowLine(service, 0));
+        expect.same("away", "0@1,1+3 t0 a2", Text.barrow(service, 0));
         expect.same("repaired()", 1, service.repaired());
         expect.same("repair", 4, service.undo());
-        expect.same("home", "0@0,0+0 t0 a3", barrowLine(service, 0));
+        expect.same("home", "0@0,0+0 t0 a3", Text.barrow(service, 0));
         expect.same("repaired()", 0, service.repaired());
         expect.same("earnings(0)", 0, service.earnings(0));
         expect.same("totalEarningsByHours()", 0L, service.totalEarningsByHours());
@@ -1251,14 +1216,14 @@ public final class PromisesTest {
         RepairBarrows service = new RepairBarrows();
         service.rest(2, 5);
         service.writeBarrow(2);
-        expect.fails("a syntax error", ARGUMENT, () -> runText(service, "job x"));
-        expect.fails("a failure", UNSUPPORTED, () -> runText(service, "home 0;home 7"));
-        typeText(service, "rest 1");
+        expect.fails("a syntax error", ARGUMENT, () -> Text.run(service, "job x"));
+        expect.fails("a failure", UNSUPPORTED, () -> Text.run(service, "home 0;home 7"));
+        Text.type(service, "rest 1");
         service.undo();
-        expect.same("the line stays", "2@0,0+5", lineOf(service, 7));
+        expect.same("the line stays", "2@0,0+5", Text.line(service, 7));
         expect.same("errorPosition()", 4, service.errorPosition());
         expect.same("failedCommand()", 1, service.failedCommand());
-        expect.same("the buffer stays", 1, runText(service, " 9"));
+        expect.same("the buffer stays", 1, Text.run(service, " 9"));
         expect.same("clock(1)", 9, service.clock(1));
     }
 
@@ -1279,8 +1244,8 @@ public final class PromisesTest {
         Expect.outcome(() -> service.repair(0, 0));
         Expect.outcome(() -> service.goHome(3));
         Expect.outcome(() -> service.rest(0, 0));
-        Expect.outcome(() -> runText(service, "home 9"));
-        Expect.outcome(() -> runText(service, "home"));
+        Expect.outcome(() -> Text.run(service, "home 9"));
+        Expect.outcome(() -> Text.run(service, "home"));
         service.save();
         for (int left = 7; left >= 0; left--) {
             expect.same("undo()", left, service.undo());
@@ -1300,13 +1265,13 @@ public final class PromisesTest {
         service.cancelJob(1);
         service.addJob(3, 3, 'c', 3, 3, 33);
         service.writeBarrow(0);
-        typeText(service, "rest 2");
+        Text.type(service, "rest 2");
         expect.same("restore()", 2, service.restore());
         expect.fails("no change can be undone", STATE, service::undo);
-        expect.same("the line stays", "0@1,1+3 t0 t1 b1", lineOf(service, 16));
-        expect.same("the buffer stays", 1, runText(service, " 4"));
+        expect.same("the line stays", "0@1,1+3 t0 t1 b1", Text.line(service, 16));
+        expect.same("the buffer stays", 1, Text.run(service, " 4"));
         expect.same("clock(2)", 4, service.clock(2));
-        expect.same("barrow", "0@0,0+0 t0 t1 a1 b1", barrowLine(service, 0));
+        expect.same("barrow", "0@0,0+0 t0 t1 a1 b1", Text.barrow(service, 0));
         expect.same("barrowOf(1)", 1, service.barrowOf(1));
         expect.same("repaired()", 0, service.repaired());
         expect.same("totalEarningsByHours()", 0L, service.totalEarningsByHours());
